@@ -814,8 +814,16 @@ public final class SevenRounds {
         private void noteFall(int fallen) {
             if (fallen != 0 && fellAct == NONE) {
                 fellAct = acts;
-                fellPart = Integer.numberOfTrailingZeros(fallen);
+                fellPart = leastOf(fallen);
             }
+        }
+
+        private static int leastOf(int parts) {
+            int part = 0;
+            while (part < PARTS - 1 && (parts >> part & 1) == 0) {
+                part++;
+            }
+            return part;
         }
     }
 
