@@ -1,23 +1,25 @@
 import java.util.Random;
 
-/** All promises: runs of 512 calls by chance (the same ones each time), beside the model. */
+/** All promises: runs of up to 512 calls by chance (the same ones each time), beside the model. */
 public final class ModelTest {
     private static final Due due = new Due();
     private static final String SIGNS = "....hhhh!!nnn0123456789x";
+    // a wipe, and 62 acts of two signs
+    private static final int MOST_CALLS_OF_ONE_ASKING = 125;
     private static final String[] ROUNDS = {".", ".", ".", "h", "h", "h", "!", "n"};
 
     public static void main(String[] args) {
         allOfWater();
         allOfLots();
         allOfTones();
-        for (int run = 0; run < 600 && !due.isWrong(); run++) {
+        for (int run = 0; run < 800 && !due.isWrong(); run++) {
             Random random = new Random(run);
             SevenRounds x = new SevenRounds();
             Model y = new Model();
             begin(random, x, y, run);
             int call = 20;
             // once one answer is wrong the two have parted, and what follows tells nothing
-            while (call < 512 && !due.isWrong()) {
+            while (call + MOST_CALLS_OF_ONE_ASKING <= 512 && !due.isWrong()) {
                 call += ask(random, x, y, "run " + run + ", call " + call + ": ");
             }
         }
