@@ -9,6 +9,7 @@ public final class RoundsEdgesTest {
 
     public static void main(String[] args) throws IOException {
         due = new Sentences();
+        textOfActs();
         silence();
         hornsByTones();
         hornsAtTheEnds();
@@ -46,6 +47,22 @@ public final class RoundsEdgesTest {
         for (int part = 0; part < firm.length; part++) {
             due.is("behind(" + part + ") of " + rounds, x.behind(part), firm[part]);
         }
+    }
+
+    private static void textOfActs() {
+        due.says("ROUNDS are a text on a PAD (60 SIGNS at most, codes 33 to 126) of ACTS");
+        String[] acts = {".", "h0", "h9", "!", "n"};
+        for (int i = 0; i < acts.length * acts.length * acts.length; i++) {
+            // silence ahead of each, so that a shout can be wherever it stands
+            String rounds = "." + acts[i / 25] + "." + acts[i / 5 % 5] + "." + acts[i % 5];
+            SevenRounds x = new SevenRounds();
+            x.set(1, 1);
+            Sentences.write(x, rounds);
+            due.is("fault() of " + rounds, x.fault(), NONE);
+            due.is("judge(0) of " + rounds, x.judge(0), NONE);
+            due.is("done() of " + rounds, x.done(), 6);
+        }
+        due.is("a text of no acts", new SevenRounds().done(), 0);
     }
 
     private static void silence() {

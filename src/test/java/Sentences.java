@@ -1,6 +1,4 @@
 import java.io.IOException;
-import java.nio.file.Files;
-import java.nio.file.Path;
 
 /**
  * Answers that are due, each under the sentence of the document that asks for it. The sentence is
@@ -10,8 +8,6 @@ final class Sentences {
     static final int NONE = -6, UNKNOWN = -1, OUTSIDE = -2, STATE = -3, FULL = -4, NO = -5;
     static final int LOW = Integer.MIN_VALUE, HIGH = Integer.MAX_VALUE;
 
-    private static final Path DOCUMENT = Path.of("../shared/DOC.md");
-
     private final String document;
     private String sentence = "";
     private int sentences;
@@ -20,14 +16,8 @@ final class Sentences {
     private int wrong;
 
     Sentences() throws IOException {
-        document = Files.isReadable(DOCUMENT) ? oneLine(Files.readString(DOCUMENT)) : null;
-        if (document == null) {
-            System.out.println("the sentences are not looked up: there is no " + DOCUMENT);
-        }
-    }
-
-    private static String oneLine(String text) {
-        return text.replaceAll("\\s+", " ");
+        Document read = Document.read();
+        document = read == null ? null : Document.oneLine(read.text);
     }
 
     /** What follows tests this sentence, up to the next one. */
@@ -35,7 +25,7 @@ final class Sentences {
         closeSentence();
         sentence = quoted;
         sentences++;
-        if (document != null && !document.contains(oneLine(quoted))) {
+        if (document != null && !document.contains(Document.oneLine(quoted))) {
             wrong("the document does not say this");
         }
     }
@@ -48,7 +38,7 @@ final class Sentences {
         }
         int from = document.indexOf("## Promise " + number + ":");
         int to = document.indexOf("## ", from + 3);
-        if (from < 0 || to < 0 || !document.substring(from, to).contains(oneLine(quoted))) {
+        if (from < 0 || to < 0 || !document.substring(from, to).contains(Document.oneLine(quoted))) {
             wrong("promise " + number + " does not say this");
         }
     }
