@@ -1,11 +1,15 @@
 import java.io.IOException;
 import java.lang.reflect.Constructor;
 import java.lang.reflect.Field;
+import java.lang.reflect.InvocationTargetException;
 import java.lang.reflect.Method;
 import java.lang.reflect.Modifier;
 import java.nio.file.Files;
 import java.nio.file.Path;
+import java.util.ArrayList;
+import java.util.Arrays;
 import java.util.List;
+import java.util.Random;
 import java.util.Set;
 import java.util.TreeSet;
 import java.util.regex.Matcher;
@@ -31,11 +35,21 @@ public final class FaceTest {
         "\\bstatic\\s*\\{", "\\btoString\\b", "\\bhashCode\\b", "\\bequals\\b", "\\bObject\\b", "\\bvar\\b"
     };
 
-    public static void main(String[] args) throws IOException {
+    // all that the source takes from the library, and may by rule 4
+    private static final Set<String> LIBRARY =
+            Set.of("Arrays.fill", "Integer.bitCount", "Math.max", "Math.min", "System.arraycopy");
+    private static final int[] NUMBERS = {
+        Integer.MIN_VALUE, Integer.MIN_VALUE + 1, -65536, -100, -7, -6, -1, 0, 1, 2, 3, 5, 7, 8, 9, 10, 11, 12, 13,
+        20, 21, 30, 33, '.', '!', 'h', 'n', '0', '9', 41, 50, 57, 60, 99, 100, 126, 127, 255, 256, 4095, 4096, 9999,
+        10000, 65536, Integer.MAX_VALUE - 1, Integer.MAX_VALUE
+    };
+
+    public static void main(String[] args) throws IOException, IllegalAccessException {
         constants();
         members();
         nested();
         text();
+        noCallThrows();
         due.end();
     }
 
@@ -112,12 +126,56 @@ public final class FaceTest {
         while (imports.find()) {
             due.holds("import " + imports.group(1), imports.group(1).equals("java.util.Arrays"));
         }
+        Matcher library = Pattern.compile("\\b[A-Z][a-z]\\w*\\.\\w+").matcher(code.replaceAll("import [^;]*;", ""));
+        while (library.find()) {
+            due.holds("of the library: " + library.group(), LIBRARY.contains(library.group()));
+        }
         for (int i = 0; i < text.length(); i++) {
             if (text.charAt(i) > 126) {
                 due.holds("a plain sign at " + i, false);
             }
         }
         methodsAreShort(text.split("\n"));
+    }
+
+    /** Rule 7: for any arguments in any state, behind the 512th call too, where only answers are free. */
+    private static void noCallThrows() throws IllegalAccessException {
+        List<Method> calls = new ArrayList<>();
+        for (Method method : SevenRounds.class.getDeclaredMethods()) {
+            if (Modifier.isPublic(method.getModifiers())) {
+                calls.add(method);
+            }
+        }
+        // reflection promises no order, and a run must be the same each time
+        calls.sort((a, b) -> a.getName().compareTo(b.getName()));
+        Random random = new Random(7);
+        for (int object = 0; object < 60; object++) {
+            SevenRounds x = new SevenRounds();
+            for (int call = 0; call < 2000; call++) {
+                Method method = calls.get(random.nextInt(calls.size()));
+                Object[] numbers = numbers(method, random);
+                due.holds(method.getName() + Arrays.toString(numbers) + " throws nothing", answers(x, method, numbers));
+            }
+        }
+    }
+
+    private static Object[] numbers(Method method, Random random) {
+        Object[] numbers = new Object[method.getParameterCount()];
+        for (int i = 0; i < numbers.length; i++) {
+            boolean isTruth = method.getParameterTypes()[i] == boolean.class;
+            numbers[i] = isTruth ? (Object) random.nextBoolean() : (Object) NUMBERS[random.nextInt(NUMBERS.length)];
+        }
+        return numbers;
+    }
+
+    private static boolean answers(SevenRounds x, Method method, Object[] numbers) throws IllegalAccessException {
+        try {
+            method.invoke(x, numbers);
+            return true;
+        } catch (InvocationTargetException thrown) {
+            System.out.println(thrown.getCause());
+            return false;
+        }
     }
 
     private static void methodsAreShort(String[] lines) {
